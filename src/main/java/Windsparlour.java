@@ -88,7 +88,7 @@ public final class Windsparlour {
     public int discard(int kind) throws IllegalArgumentException, IllegalStateException {
         requireKind(kind);
         requirePhase(DISCARDING);
-        Seat seat = seats[turn];
+        Seat seat = seatInTurn();
         if (seat.count(kind) == 0 || (seat.called && kind != lastDrawn)) {
             throw new IllegalStateException("that tile cannot be discarded");
         }
@@ -99,7 +99,7 @@ public final class Windsparlour {
     public int call(int kind) throws IllegalArgumentException, IllegalStateException {
         requireKind(kind);
         requirePhase(DISCARDING);
-        Seat seat = seats[turn];
+        Seat seat = seatInTurn();
         if (seat.called || seat.openSets() > 0 || seat.count(kind) == 0 || !readyWithout(seat, kind)) {
             throw new IllegalStateException("that hand cannot be called");
         }
@@ -120,7 +120,7 @@ public final class Windsparlour {
             throw new IllegalStateException("that cannot be claimed");
         }
         Seat seat = seats[player];
-        int kind = seats[turn].leaveRiver();
+        int kind = seatInTurn().leaveRiver();
         turn = player;
         phase = DISCARDING;
         drewLatest = false;
@@ -135,7 +135,7 @@ public final class Windsparlour {
     public int four(int kind) throws IllegalArgumentException, IllegalStateException {
         requireKind(kind);
         requirePhase(DISCARDING);
-        Seat seat = seats[turn];
+        Seat seat = seatInTurn();
         if (seat.called || seat.count(kind) < 4 || !fourAllowed()) {
             throw new IllegalStateException("no closed four of that kind");
         }
@@ -158,7 +158,7 @@ public final class Windsparlour {
         }
         Seat winner = seats[player];
         if (!alone) {
-            winner.change(seats[turn].leaveRiver(), 1);
+            winner.change(seatInTurn().leaveRiver(), 1);
         }
         int value = valuing.value(winner, alone, luckyKind, windOf(player));
         payWin(player, alone, value);
@@ -258,7 +258,7 @@ public final class Windsparlour {
             case 3:
                 return luckyKind;
             case 4:
-                return phase == CLAIMING ? seats[turn].latestInRiver() : NONE;
+                return phase == CLAIMING ? seatInTurn().latestInRiver() : NONE;
             case 5:
                 return fours;
             case 6:
@@ -298,14 +298,14 @@ public final class Windsparlour {
         if (phase != DISCARDING) {
             return NONE;
         }
-        Seat seat = seats[turn];
+        Seat seat = seatInTurn();
         int best = NONE;
         int bestFar = 0;
         for (int kind = 0; kind < KINDS; kind++) {
             if (seat.count(kind) > 0) {
                 int far = farWith(seat, kind, -1);
                 boolean fewer = best != NONE && seat.count(kind) < seat.count(best);
-                if (best == NONE || far < bestFar || far == bestFar && fewer) {
+                if (best == NONE || far < bestFar || (far == bestFar && fewer)) {
                     best = kind;
                     bestFar = far;
                 }
@@ -373,6 +373,11 @@ public final class Windsparlour {
         }
     }
 
+    private Seat seatInTurn() {
+        // the test keeps the index in sight: it is one of the four at any time
+        return turn >= 0 && turn < PLAYERS ? seats[turn] : seats[0];
+    }
+
     private static boolean startsRow(int kind) {
         return kind >= 0 && kind < HONOURS && kind % SUIT <= SUIT - 3;
     }
@@ -430,7 +435,7 @@ public final class Windsparlour {
     }
 
     private void receive(int kind) {
-        seats[turn].change(kind, 1);
+        seatInTurn().change(kind, 1);
         lastDrawn = kind;
         drewLatest = true;
     }
@@ -445,7 +450,7 @@ public final class Windsparlour {
             return false;
         }
         Seat seat = seats[player];
-        int kind = seats[turn].latestInRiver();
+        int kind = seatInTurn().latestInRiver();
         if (what == ROW) {
             return player == (turn + 1) % PLAYERS && completesRow(seat, kind, low);
         }
@@ -479,7 +484,7 @@ public final class Windsparlour {
         }
         Seat seat = seats[player];
         long waiting = waitsOf(seat);
-        int kind = seats[turn].latestInRiver();
+        int kind = seatInTurn().latestInRiver();
         return kind >= 0 && (waiting >> kind & 1L) == 1 && (waiting & seat.discarded) == 0;
     }
 
@@ -491,7 +496,7 @@ public final class Windsparlour {
             // the winner paid with the others just now, and gets that back
             seats[player].points += PLAYERS * SHARE * value;
         } else {
-            seats[turn].points -= (PLAYERS - 1) * SHARE * value;
+            seatInTurn().points -= (PLAYERS - 1) * SHARE * value;
             seats[player].points += (PLAYERS - 1) * SHARE * value;
         }
         seats[player].points += pot;
@@ -818,7 +823,7 @@ public final class Windsparlour {
             paired[parts] = bestPaired;
         }
 
-        /** The most that so many parts make of the KINDS from one on. It goes as many levels deep as there are parts. */
+        /** The most that so many parts, at most, make of the KINDS from one on; the calls go as deep as there are parts. */
         private static int most(int[] tiles, int from, int end, int parts) {
             int best = 0;
             if (parts <= 0 || parts > SETS || from < 0) {
@@ -826,9 +831,10 @@ public final class Windsparlour {
             }
             for (int k = from; k < end && best < 2 * parts; k++) {
                 for (int form = 0; form < FORMS; form++) {
-                    if (takePart(tiles, k, end, form)) {
-                        int worth = form <= ROW ? 2 : 1;
-                        best = Math.max(best, worth + most(tiles, k, end, parts - 1));
+                    if (fits(tiles, k, end, form)) {
+                        changePart(tiles, k, form, -1);
+                        int made = form <= ROW ? 2 : 1;
+                        best = Math.max(best, made + most(tiles, k, end, parts - 1));
                         changePart(tiles, k, form, 1);
                     }
                 }
@@ -836,21 +842,20 @@ public final class Windsparlour {
             return best;
         }
 
-        /** Takes a part away, if its TILES are there. */
-        private static boolean takePart(int[] tiles, int low, int end, int form) {
-            boolean stretches = AT_NEXT[form] + AT_THIRD[form] > 0;
-            if (low < 0 || low >= tiles.length || tiles[low] < AT_LOW[form] || stretches && low >= HONOURS) {
+        /** Whether the TILES of a part are there, below the end of its suit or of the honours. */
+        private static boolean fits(int[] tiles, int low, int end, int form) {
+            if (low < 0 || low >= end || end > tiles.length || tiles[low] < AT_LOW[form]) {
                 return false;
             }
-            if (countBelow(tiles, low + 1, end) < AT_NEXT[form] || countBelow(tiles, low + 2, end) < AT_THIRD[form]) {
+            if (AT_NEXT[form] + AT_THIRD[form] == 0) {
+                return true;
+            }
+            if (low >= HONOURS) {
                 return false;
             }
-            changePart(tiles, low, form, -1);
-            return true;
-        }
-
-        private static int countBelow(int[] tiles, int kind, int end) {
-            return kind < end && kind >= 0 && kind < tiles.length ? tiles[kind] : 0;
+            int next = low + 1 < end ? tiles[low + 1] : 0;
+            int third = low + 2 < end ? tiles[low + 2] : 0;
+            return next >= AT_NEXT[form] && third >= AT_THIRD[form];
         }
 
         private static void changePart(int[] tiles, int low, int form, int by) {

@@ -638,6 +638,9 @@ final class PromisesTest {
         noRow(3, 43, 17, "1dESSWNRRGH", 17);
         noRow(3, 7, 8, "1223455678b", 8);
         noRow(7, 4, 8, "13568d1bEWRG", 7);
+        // no ROW that is in hand as it is, and that the discard lies below or above
+        noRow(3, 7, 3, "1223455678b", 9);
+        noRow(3, 76, 19, "2344567789d", 1);
     }
 
     private static void noRow(int step, int shift, int kind, String hand, int low) {
@@ -850,6 +853,11 @@ final class PromisesTest {
         refused(w, "waits for another", STATE, x -> x.win(3));
         is("win(1)", w.win(1), 5);
         points(w, 190, 310, 250, 250);
+        // by a 1 of dots
+        w = laid(3, 75);
+        w.draw();
+        w.discard(0);
+        is("win(1)", w.win(1), 5);
         // what lay in the RIVER ahead of it stays
         w = laid(1, 0);
         turns(w, 4);
@@ -1041,6 +1049,16 @@ final class PromisesTest {
         w.discard(2);
         is("hand", w.hand(1), "3444555d");
         is("worth(1, 2)", w.worth(1, 2), 6);
+        // in the next round that ROW does not lie: WWWNNNNRRR and N are a dragon and THREES
+        w = laid(1, 0);
+        w.draw();
+        w.discard(2);
+        w.claim(1, 1, 2);
+        w.discard(4);
+        w.win(2);
+        w.lay(1, 71);
+        is("hand", w.hand(1), "WWWNNNNRRR");
+        is("worth(1, 21)", w.worth(1, 21), 4);
     }
 
     private static void valueOfCallsAndFours() {

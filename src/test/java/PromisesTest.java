@@ -1441,23 +1441,24 @@ final class PromisesTest {
 
     private static void digest() {
         part = "digest";
-        Windsparlour w = new Windsparlour();
-        is("of a new object", w.digest(), sum(w));
-        w = laid(1, 0);
-        is("behind lay()", w.digest(), sum(w));
-        w.draw();
-        is("behind draw()", w.digest(), sum(w));
-        w.call(10);
-        is("behind call()", w.digest(), sum(w));
-        w.pass();
-        w.draw();
-        w.four(3);
-        w.discard(2);
-        is("with SETS and RIVERS", w.digest(), sum(w));
-        is("once more", w.digest(), sum(w));
-        w.win(0);
-        is("behind win()", w.digest(), sum(w));
+        // with an object for each, as sum() asks much of it
+        for (int calls = 0; calls <= 8; calls++) {
+            Windsparlour w = played(calls);
+            is("behind so many calls: " + calls, w.digest(), sum(w));
+            is("once more", w.digest(), w.digest());
+        }
         is("of a run that is written out", digestOfARun(), -1075633325285555971L);
+    }
+
+    /** The first calls of a run in which a FOUR lies, and that is won. */
+    private static Windsparlour played(int calls) {
+        Call[] run = {x -> x.lay(1, 0), x -> x.draw(), x -> x.call(10), x -> x.pass(), x -> x.draw(), x -> x.four(3),
+            x -> x.discard(2), x -> x.win(0)};
+        Windsparlour w = new Windsparlour();
+        for (int i = 0; i < calls; i++) {
+            run[i].on(w);
+        }
+        return w;
     }
 
     private static long digestOfARun() {

@@ -814,6 +814,9 @@ final class BoundariesTest {
     private static void pointsBelow0() {
         String sentence = "POINTS are 250 each at first (they may be below 0)";
         Run.holds(sentence, BELOW_0, "lead(1) = -292.0; lead(0) = 392.0");
+        // who has less than none pays as others do
+        Run.holds(sentence, BELOW_0,
+            "lay(3, 2) = 2; draw(); discard(5); win(0) = 5; lay(1, 10) = 3; draw(); win(3) = 7; points(674, -70, 26, 370)");
         // who has none may CALL as well, and pays as nobody can draw
         Run.holds(sentence, BELOW_0,
             "lay(1, 6) = 2; turns(3); draw() = 12; call(12) = -52; many(6) = 10; lead(1) = -299.5; pass(); turns(32); draw() = -1;",
@@ -1020,6 +1023,10 @@ final class BoundariesTest {
         Run.holds(each,
             "lay(1, 0); draw(); call(2); claim(1, 0, 0); isSafe(1, 2) = true; discard(4); pass(); draw(); call(10);",
             "isSafe(1, 2) = false; isSafe(1, 10) = false; isSafe(0, 10) = true; isSafe(2, 2) = true; isSafe(0, 2) = false");
+        // the first and the last PLAYER, too
+        Run.holds(each,
+            "lay(1, 6); draw(); call(11); pass(); turns(2); draw() = 12; call(12) = 240; isSafe(0, 12) = true; isSafe(0, 11) = false;",
+            "isSafe(3, 11) = true; isSafe(3, 12) = false; isSafe(1, 11) = false; isSafe(1, 12) = false");
         // 1 discarded it, but did not CALL
         Run.holds(each, "lay(1, 0); draw(); call(10); pass(); draw(); discard(3); isSafe(2, 3) = false; isSafe(0, 3) = true");
     }
